@@ -9,6 +9,7 @@ public final class TermsTest {
     public static void main(String[] args) {
         TermsTest test = new TermsTest();
         test.emptyTerm();
+        test.eightClasses();
         test.mergeIntoNearestLevel();
         test.mergeNeedsPlaces();
         test.fewestPeopleAreTakenFirst();
@@ -57,6 +58,26 @@ public final class TermsTest {
         due.is("open ones", x.count(5), 0);
         due.is("with a free place", x.count(6), 0);
         due.is("second term", x.term(), 2);
+    }
+
+    private void eightClasses() {
+        EveningClasses x = new EveningClasses();
+        x.room(1);
+        x.room(1);
+        for (int course = 0; course < 8; course++) {
+            x.course(kind(course % 4, 3 * (course / 4), course / 2), 1, 1, 5);
+        }
+        due.is("close of eight empty ones", x.close(), 0);
+        states("eight empty ones", x, 2, 2, 2, 2, 2, 2, 2, 2);
+        due.is("cancelled", x.count(15), 8);
+        x.term();
+        for (int course = 0; course < 8; course++) {
+            come(x, course, 1);
+        }
+        due.is("close of eight full ones", x.close(), 8);
+        states("eight full ones", x, 1, 1, 1, 1, 1, 1, 1, 1);
+        due.is("every second one", x.roomOf(0, 1), 1 + 4 + 16 + 64);
+        due.is("the others", x.roomOf(1, 1), 2 + 8 + 32 + 128);
     }
 
     private void mergeIntoNearestLevel() {

@@ -89,6 +89,11 @@ public final class TextsTest {
         due.is("clearing is no change", x.count(16), 0);
         put(x, "lose;");
         due.is("the new text counts", x.play(), 1);
+        x.clearText();
+        put(x, "term;");
+        x.clearText();
+        put(x, "term");
+        due.is("what was cleared does not count", x.fault(2), 4);
     }
 
     private void promise22() {

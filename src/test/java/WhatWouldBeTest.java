@@ -18,6 +18,8 @@ public final class WhatWouldBeTest {
         test.promise18();
         test.promise19();
         test.promise19History();
+        test.promise19Ring();
+        test.promise19Closed();
         test.due.end();
     }
 
@@ -132,6 +134,11 @@ public final class WhatWouldBeTest {
         mean(x, 1, 2);
         x.join(0, 1, 2);
         due.is("one", x.mean(), 0x3f800000);
+        x.wish(0, 2, 1, 0);
+        x.wish(1, 2, 0, 1);
+        due.is("two", x.mean(), 0x40000000);
+        x.wish(0, 0, -1, -1);
+        x.wish(1, 0, 1, -1);
         x.join(0, 1, 2);
         mean(x, 7, 4);
         x.join(0, 1, 2);
@@ -280,5 +287,60 @@ public final class WhatWouldBeTest {
         due.is("room of before", x.courseOf(0, 9), 0);
         due.is("stayed paid", x.count(12), 0);
         due.is("number", x.count(7), 0);
+    }
+
+    /** Many more changes than states that are kept, and some undone between them. */
+    private void promise19Ring() {
+        EveningClasses x = new EveningClasses();
+        x.course(0, 1, 20, 1);
+        for (int turn = 0; turn < 6; turn++) {
+            for (int person = 2 * turn; person < 2 * turn + 6; person++) {
+                due.is("join", x.join(0, -1, -1), person);
+            }
+            for (int left = 3; left >= 0; left--) {
+                due.is("undo", x.undo(), left);
+                due.is("people", x.count(2), 2 * turn + 2 + left);
+                due.is("paid", x.count(9), 2 * turn + 2 + left);
+                due.is("last one", x.member(0, 2 * turn + 1 + left), 2 * turn + 1 + left);
+                due.is("no more", x.member(0, 2 * turn + 2 + left), MISSING);
+            }
+            due.is("empty", x.undo(), IMPOSSIBLE);
+        }
+    }
+
+    /** What a closing has brought to each class stands again when the next term is undone. */
+    private void promise19Closed() {
+        EveningClasses x = new EveningClasses();
+        x.course(kind(0, 0, 0), 2, 4, 10);
+        x.course(kind(0, 1, 0), 1, 4, 20);
+        x.course(kind(1, 2, 0), 1, 4, 30);
+        x.join(0, 1, 2);
+        x.join(1, -1, -1);
+        x.leave(0);
+        due.is("undo of leave", x.undo(), 3);
+        due.is("has not left", x.personOf(0, 0), 1);
+        due.is("third wish", x.personOf(0, 7), 2);
+        x.room(3);
+        x.close();
+        x.term();
+        x.undo();
+        due.is("merged", x.courseOf(0, 6), 3);
+        due.is("into", x.courseOf(0, 10), 1);
+        due.is("why merged", x.courseOf(0, 12), 1);
+        due.is("why cancelled", x.courseOf(2, 12), 2);
+        due.is("room", x.roomOf(0, 1), 2);
+        x.undo();
+        due.is("open", x.count(5), 7);
+        due.is("into none", x.courseOf(0, 10), MISSING);
+        EveningClasses y = new EveningClasses();
+        y.course(kind(3, 2, 1), 1, 4, 10);
+        y.undo();
+        y.course(kind(2, 3, 4), 2, 5, 11);
+        y.course(kind(0, 0, 0), 2, 5, 11);
+        y.undo();
+        int[] want = {2, 3, 4, 2, 5, 11};
+        for (int what = 0; what < want.length; what++) {
+            due.is("class of before: " + what, y.courseOf(0, what), want[what]);
+        }
     }
 }
