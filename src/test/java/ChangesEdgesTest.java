@@ -11,6 +11,7 @@ public final class ChangesEdgesTest {
         test.theOldestIsDropped();
         test.everythingButTheText();
         test.everythingOfAClosedTerm();
+        test.everythingOfWhatCameAgain();
         test.undoReturnsWhatIsLeft();
         test.undoOfEach();
         test.undoRefused();
@@ -193,6 +194,49 @@ public final class ChangesEdgesTest {
         due.same("open", withoutStates(Given.answers(x)), open);
         due.is("close once more", x.close(), 1);
         due.same("closed once more", withoutStates(Given.answers(x)), closed);
+    }
+
+    /** What came in the place of what was undone is gone with its own undoing, down to the last number. */
+    private void everythingOfWhatCameAgain() {
+        due.sentence("each change records everything before it: what a class, a room and a person have");
+        EveningClasses x = new EveningClasses();
+        x.course(Given.kind(3, 2, 1), 1, 4, 10);
+        x.undo();
+        x.course(Given.kind(2, 3, 4), 2, 5, 11);
+        x.course(Given.kind(0, 0, 0), 1, 1, 1);
+        x.room(7);
+        x.join(1, 0, -1);
+        String before = withoutStates(Given.answers(x));
+        x.undo();
+        x.undo();
+        x.undo();
+        x.undo();
+        x.course(Given.kind(1, 1, 1), 3, 3, 33);
+        x.undo();
+        x.course(Given.kind(2, 3, 4), 2, 5, 11);
+        x.course(Given.kind(0, 0, 0), 1, 1, 1);
+        x.room(7);
+        x.join(1, 0, -1);
+        due.same("answers", withoutStates(Given.answers(x)), before);
+        x.room(9);
+        x.undo();
+        due.same("answers, undone", withoutStates(Given.answers(x)), before);
+        EveningClasses y = new EveningClasses();
+        y.course(Given.kind(3, 2, 1), 1, 4, 10);
+        y.room(5);
+        y.undo();
+        y.undo();
+        y.room(6);
+        y.course(Given.kind(2, 3, 4), 2, 5, 11);
+        y.undo();
+        due.is("a room of before", y.roomOf(0, 0), 6);
+        y.course(Given.kind(2, 3, 4), 2, 5, 11);
+        y.close();
+        y.undo();
+        int[] want = {2, 3, 4, 2, 5, 11};
+        for (int what = 0; what < want.length; what++) {
+            due.is("class of before: " + what, y.courseOf(0, what), want[what]);
+        }
     }
 
     private void undoReturnsWhatIsLeft() {

@@ -279,6 +279,8 @@ public final class ClosingEdgesTest {
         }
         due.is("no one more", x.member(1, 5), Given.MISSING);
         due.is("nobody is left", x.member(0, 0), Given.MISSING);
+        due.is("none of them", x.courseOf(0, 7), 0);
+        due.is("it needs its least size", x.courseOf(0, 11), 5);
         due.is("rank", x.personOf(0, 2), 3);
     }
 
@@ -740,6 +742,13 @@ public final class ClosingEdgesTest {
         due.is("one runs", y.ifClose(0), 128);
         due.is("none is cancelled", y.ifClose(1), 0);
         due.is("seven are merged", y.ifClose(2), 127);
+        EveningClasses z = new EveningClasses();
+        z.room(30);
+        course(z, Given.kind(0, 3, 0), 2, 20, 1);
+        course(z, Given.kind(0, 1, 0), 1, 20, 2);
+        course(z, Given.kind(0, 0, 0), 2, 20, 1);
+        due.is("one of two levels away", z.ifClose(1), 1);
+        due.is("one of one level away", z.ifClose(2), 4);
     }
 
     private void ifClosePeopleAndCoins() {

@@ -355,6 +355,11 @@ public final class TextsEdgesTest {
         form("jo1n 1;", 0);
         form("oin 1;", 0);
         form("xjoin 1;", 0);
+        form("boin 1;", 0);
+        form("fish 0,1;", 0);
+        form("heave 0;", 0);
+        form("germ;", 0);
+        form("joim 1;", 0);
         form("Join 1;", 0);
         form("TERM;", 0);
         form("wis 0,1;", 0);
